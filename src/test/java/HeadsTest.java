@@ -13,6 +13,9 @@ public final class HeadsTest {
     return x;
   }
 
+  /** The sum less all, right from the least card on alone. */
+  private static final String ASCENDING = "first a-item-9*(item<b);second item;says a;";
+
   private static void says() {
     FiftyOneCards x = with("first b;second a;says 1000*a+b-n*item+0-place;", 0, 7, 5, 6, 7);
     // 7 0, 0 7, 7 0, 0 7; item of says is 0, place is 3.
@@ -168,6 +171,9 @@ public final class HeadsTest {
     x = with("first a+item;second b+1;says 55-a;", 0, 0);
     x.deal(10);
     Due.due("least(0) of a sum", x.least(0), 6);
+    x = with(ASCENDING, 0, 6);
+    x.deal(3);
+    Due.due("least(0), way 0", x.least(0), 2);
     x = with("first a;second b;says 1-(a<8*4096);", 0, 32768);
     x.deal(1);
     Due.due("least(0) of 16", x.least(0), 16);
@@ -199,9 +205,16 @@ public final class HeadsTest {
     Due.due("begin(0, 1), none right", x.begin(0, 1), 0);
     x = with("first a;second b;says a-94;", 0, 9);
     Due.due("begin by 95", x.begin(0, 0), 95);
+    x = with("first a;second b;says a-98;", 0, 9);
+    Due.due("begin by 99", x.begin(0, 0), 99);
     x = with("first a;second b;says a-99;", 0, 9);
     x.deal(13);
     Due.due("begin by 100: none", x.begin(0, 1), 0);
+    // 3 less the first card: from the least on that is right BUT 1, BUT 2.
+    x = with("first a+(place=0)*item;second b;says 3-a;", 0, 9);
+    x.deal(3);
+    Due.due("begin, way 0", x.begin(0, 0), 0);
+    Due.due("begin, way 0", x.begin(0, 1), 2);
     x = with("first a;second b;says a-1377;", 0, 9);
     Due.due("begin by the sum", x.begin(0, 0), 1378);
   }
@@ -233,6 +246,10 @@ public final class HeadsTest {
     Due.due("share(0, 2)", x.share(0, 2), -1000005);
     Due.due("share(-1, 0)", x.share(-1, 0), -1000005);
     Due.due("share(0, -1)", x.share(0, -1), -1000005);
+    // Each has its own: head 1 keeps but 3 bits.
+    x.set(1, 0, 3);
+    Due.due("share(0, 1) of 3 bits", x.share(0, 1), 3009 + 2000 + (4 + 6) % 8);
+    Due.due("share(1, 0) of 3 bits", x.share(1, 0), 3000 + (4 + 9) % 8 + 2006);
     // The places count anew: 0, 1, 2 of three.
     x = with("first a+place*item;second b;says a;", 0, 0, 1, 2, 3, 4, 5);
     Due.due("share by place", x.share(0, 0), 3 + 10 + 4);
@@ -269,6 +286,10 @@ public final class HeadsTest {
     x = with("first a*7+item;second b;says a;", 10, 0);
     Due.due("states of a SLOW, 2", x.states(0, 6, 2), 7);
     Due.due("states of a SLOW, 3", x.states(0, 6, 3), 43);
+    x = with("first a*2;second b;says a;", 0, 1);
+    Due.due("states from 1 on", x.states(0, 2, 3), 4);
+    x.set(0, 1, 0);
+    Due.due("states from 0 on", x.states(0, 2, 3), 1);
     // Unlike in the second alone.
     x = with("first a;second b*7+item;says a;", 0, 0);
     Due.due("states by second", x.states(0, 6, 2), 43);
@@ -332,6 +353,9 @@ public final class HeadsTest {
     Due.due("who(1)", x.who(1), 10);
     Due.due("who(2)", x.who(2), -2);
     Due.due("who(-1)", x.who(-1), -2);
+    x = with(ASCENDING, 0, 6);
+    x.deal(3);
+    Due.due("who(1), way 0", x.who(1), 3);
   }
 
   public static void main(String[] args) {

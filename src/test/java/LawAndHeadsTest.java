@@ -63,6 +63,8 @@ public final class LawAndHeadsTest {
     fault("first \u00e9;", 6);
     fault("first ab;", 6);
     fault("first items;", 6);
+    fault("first az;", 6);
+    fault("first z;", 6);
     fault("first 12345;", 6);
     fault("first 00001;", 6);
     fault("first a 1;", 8);
@@ -144,6 +146,21 @@ public final class LawAndHeadsTest {
     Due.due("says of 160 bytes", y.asks(2, 0, 0, 0), 68);
   }
 
+  /** What was read ahead of a fault is no part of the next text. */
+  private static void afterFaults() {
+    FiftyOneCards x = new FiftyOneCards();
+    for (String bad : new String[] {"first a+a;", "first 1;second 2;says 3", "first 1;second 2;says 3;;", "first (1"}) {
+      Due.due("a bad one", Due.read(x, bad), -100 - (bad.endsWith(";;") ? 24 : bad.length()));
+    }
+    Due.due("a good one", Due.read(x, "first 4;second 5;says 6;"), 1);
+    x.force(1);
+    for (int part = 0; part < 3; part++) Due.due("its value", x.asks(part, 0, 0, 0), 4 + part);
+    String start = "first a;second b;says " + "(a)+".repeat(34);
+    Due.due("a NAME that ends a full tape", Due.read(x, start + " a"), -100 - 160);
+    Due.due("a WORD that is none ends it", Due.read(x, start + " c"), -100 - 159);
+    Due.due("a ; ends it", Due.read(x, start + "a;"), 2);
+  }
+
   private static void forces() {
     FiftyOneCards x = new FiftyOneCards();
     Due.due("force(1)", x.force(1), -2);
@@ -198,6 +215,11 @@ public final class LawAndHeadsTest {
     value("0 or 0", 0);
     value("a and b", 1);
     value("a and 0", 0);
+    value("1 and 1", 1);
+    value("0 and 1", 0);
+    value("1 or 1", 1);
+    value("0 or 1", 1);
+    value("not 1", 0);
     value("1 or 0 and 0", 1);
     value("(1 or 0) and 0", 0);
     value("0 and 0 or 1", 1);
@@ -288,6 +310,7 @@ public final class LawAndHeadsTest {
     goodTexts();
     openOnes();
     fullTexts();
+    afterFaults();
     forces();
     values();
     asked();

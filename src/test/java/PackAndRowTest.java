@@ -112,6 +112,8 @@ public final class PackAndRowTest {
     Due.due("turn(2)", x.turn(2), 4);
     Due.due("turn(2)", x.turn(2), 1);
     isRow("turn(2)", x, 1, 4, 3, 2);
+    row(x, 8);
+    for (int how = 0; how <= 2; how++) Due.due("turn of one", x.turn(how), 8);
     row(x, 5, 6, 7);
     Due.due("turn(0) of three", x.turn(0), 7);
     isRow("turn(0) of three", x, 7, 6, 5);
@@ -151,6 +153,12 @@ public final class PackAndRowTest {
     truths("3 5 5 3 5", x, 3, 2, 5, 3, 1, 5, 21, 93);
     row(x, 7);
     truths("7", x, 51, 1, 7, 1, 1, -1, 7, 49);
+    row(x, 1, 52, 1);
+    truths("1 52 1", x, 50, 2, 1, 2, 1, 1, 54, 2706);
+    row(x, 6, 6, 4, 4);
+    truths("6 6 4 4", x, 50, 2, 4, 2, 0, 6, 20, 104);
+    row(x, 52, 52);
+    truths("52 52", x, 51, 1, 52, 2, 1, 52, 104, 5408);
   }
 
   private static void twoOnes() {
@@ -162,6 +170,10 @@ public final class PackAndRowTest {
     for (int v = 1; v <= 10; v++) if (v != 3 && v != 8) x.card(v);
     Due.due("two(0) without 3, 8", x.two(0), 308);
     Due.due("two(1) without 3, 8", x.two(1), 3);
+    row(x, 3, 4);
+    x.deal(4);
+    Due.due("two(0) without 1, 2", x.two(0), 102);
+    Due.due("two(1) without 1, 2", x.two(1), 1);
     // 1 and 10 are missing, but one 5 came as 4 would: a sum and squares that no pair has.
     row(x, 2, 3, 5, 5, 6, 7, 8, 9);
     x.deal(10);

@@ -169,6 +169,15 @@ public final class SayingsAndHostTest {
     Due.due("no more", x.cell(0, 10, 1), -12);
     Due.due("film(3, 2, 0)", x.film(3, 2, 0), 0);
     Due.due("none", x.cell(3, 0, 1), -12);
+    // From the least on: BUT 1 2 3, and 9 less for what is not.
+    Due.read(x, "first a-item-9*(item<b);second item;says a;");
+    x.force(1);
+    x.deal(3);
+    x.set(0, 1, 6);
+    Due.due("film(1, 0, 3)", x.film(1, 0, 3), 3);
+    x.cardsBy(1, 2, 0, 3);
+    for (int v = 3; v >= 1; v--) Due.due("by way 0", x.at(x.count(2) + v - 4), v);
+    Due.due("judge by way 0", x.judge(1, 0), -1);
     x.deal(52);
     Due.due("film(0, 0, 40)", x.film(0, 0, 40), 40);
     Due.due("film(0, 0, 41)", x.film(0, 0, 41), -7);
@@ -277,6 +286,14 @@ public final class SayingsAndHostTest {
     }
     Due.due("sheets and texts stay as they are", x.cell(0, 1, 7), 1);
     Due.due("force(1)", x.force(1), 0);
+    x.set(2, 2, 9);
+    x.back();
+    x.head(22, 3, 4);
+    Due.due("a new one's second", x.told(2, 4), 0);
+    x.deal(3);
+    x.set(1, 0, 16);
+    x.card(1);
+    x.force(1);
     Due.due("another image", x.image(), 3);
     x.force(0);
     x.card(1);
@@ -308,7 +325,7 @@ public final class SayingsAndHostTest {
     }
     // All 0 anew: no card among them.
     x.sheet(0, 2, 3);
-    x.cell(0, 1, 5);
+    for (int i = 0; i < 3; i++) x.cell(0, i, 5);
     x.sheet(0, 2, 3);
     Due.due("all 0", x.cardsBy(0, 2, 0, 3), 0);
     Due.due("missing", x.sheet(0, -1, 99), 1);
