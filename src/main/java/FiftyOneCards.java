@@ -659,13 +659,15 @@ public final class FiftyOneCards {
         if (i < 0 || i >= MOST_HEADS + MOST_PLACES) {
             return OUTSIDE;
         }
-        boolean amongHeads = i < MOST_HEADS;
-        int place = i - MOST_HEADS;
-        if (amongHeads ? !isHead(i) : !row.has(place)) {
-            return NOTHING_THERE;
-        }
-        if (amongHeads) {
+        if (i < MOST_HEADS) {
+            if (!isHead(i)) {
+                return NOTHING_THERE;
+            }
             return isOfKind(heads[i].kind, kind) ? i : OTHER_SORT;
+        }
+        int place = i - MOST_HEADS;
+        if (!row.has(place)) {
+            return NOTHING_THERE;
         }
         return kind == CARD_KIND ? row.cards[place] : OTHER_SORT;
     }

@@ -158,6 +158,11 @@ public final class LawAndHeadsTest {
     String start = "first a;second b;says " + "(a)+".repeat(34);
     Due.due("a NAME that ends a full tape", Due.read(x, start + " a"), -100 - 160);
     Due.due("a WORD that is none ends it", Due.read(x, start + " c"), -100 - 159);
+    Due.due("a NUMBER ends it", Due.read(x, start + "12"), -100 - 160);
+    Due.due("too long a one", Due.read(x, "first 12345"), -100 - 6);
+    Due.due("its last digit is gone", Due.read(x, "first 1234"), -100 - 10);
+    Due.due("a WORD that is none", Due.read(x, "first itemb"), -100 - 6);
+    Due.due("its last letter is gone", Due.read(x, "first item"), -100 - 10);
     Due.due("a ; ends it", Due.read(x, start + "a;"), 2);
   }
 

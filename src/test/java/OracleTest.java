@@ -124,7 +124,7 @@ public final class OracleTest {
   }
 
   public static void main(String[] args) throws Exception {
-    int runs = args.length > 0 ? Integer.parseInt(args[0]) : 300;
+    int runs = args.length > 0 ? Integer.parseInt(args[0]) : 600;
     int from = args.length > 1 ? Integer.parseInt(args[1]) : 0;
     for (int seed = from; seed < from + runs; seed++) {
       boolean good = new OracleTest(seed).goes(200);
