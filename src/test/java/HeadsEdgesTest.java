@@ -201,6 +201,7 @@ public final class HeadsEdgesTest {
 
   private static void leasts() {
     edge("21 least", "1, the fewest", "deal(1)", "head(0, 9, 1)", "least(0) = 1");
+    edge("21 least", "1, not fewer, where BITS don't matter", "deal(1)", "law first a;second b;says 1;", "head(0, 9, 9)", "least(0) = 1");
     edge("21 least", "16, the most", "deal(1)", "law first a;second b;says a=8*4096;", "head(0, 3, 32768)", "least(0) = 16");
     edge("21 least", "the fewest, though more are not right", "deal(1)", "law first a;second b;says a=2;", "head(0, 9, 6)", "least(0) = 2");
     edge("21 least", "-1: there are none", "head(0, 16, 54)", "least(0) = -1");
